@@ -98,10 +98,10 @@ public final class FallTrials {
     private int flawPlace;
 
     public FallTrials() {
-        reader = new Reader();
+        draft = new Book();
+        reader = new Reader(draft);
         works = new Works(new Book());
         guess = new Works(works.book);
-        draft = new Book();
         falls = new Numbers(TOLD_FALLS);
         nothing = new Numbers(0);
         fewer = new Numbers(TOLD_FALLS);
@@ -110,7 +110,7 @@ public final class FallTrials {
         for (int i = 0; i < KEPT_SETS; i++) {
             keptSets[i] = new Numbers(TOLD_FALLS);
         }
-        trials = new Trials();
+        trials = new Trials(works);
         with = new Trace();
         without = new Trace();
         chain = new int[CELLS * ROWS];
@@ -818,6 +818,10 @@ public final class FallTrials {
         int flaw;
         Book book;
 
+        Reader(Book first) {
+            book = first;
+        }
+
         void takeNumber(int number) {
             for (int shift = 24; shift >= 0 && fed < TAPE_ROOM; shift -= 8) {
                 tape[fed] = (byte) (number >> shift);
@@ -1129,7 +1133,8 @@ public final class FallTrials {
         /** How many PLACES; NONE, and a FAULT. Ends at the TOKEN behind them. */
         int readPlaces(int[] places, String joint) {
             for (int i = 0; i <= PLACES; i++) {
-                int row = stepToRow();
+                step();
+                int row = rowHere();
                 if (row == NONE) {
                     return NONE;
                 }
@@ -1690,7 +1695,7 @@ public final class FallTrials {
         int base;
         long open;
 
-        void fillAnew() {
+        void beginAnew() {
             room[LOST] = 1;
             room[DOWN] = 1;
             room[AWAY] = 0;
@@ -1833,17 +1838,14 @@ public final class FallTrials {
         int formulaCount = NONE;
         int thinSize = NONE;
 
-        Trials() {
-            Works none = new Works(new Book());
+        Trials(Works first) {
             formulas[0] = new Trace();
-            course = new Course(none, single);
-            support = new Support(none, formulas[0], single);
-            purse.room[LOST] = 1;
-            purse.room[DOWN] = 1;
+            course = new Course(first, single);
+            support = new Support(first, formulas[0], single);
         }
 
         void forget() {
-            purse.fillAnew();
+            purse.beginAnew();
             triedRuns = NONE;
             formulaCount = NONE;
             thinSize = NONE;
