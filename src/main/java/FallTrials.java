@@ -870,8 +870,8 @@ public final class FallTrials {
         /** Goes on to the next TOKEN. */
         void step() {
             at = after;
-            for (; at < end && tape[at] == ' '; at++) {
-                after = at;
+            while (at < end && tape[at] == ' ') {
+                at++;
             }
             after = at;
             if (at >= end) {
@@ -880,8 +880,8 @@ public final class FallTrials {
                 sort = SIGN;
                 after = at + 1;
             } else {
-                for (; after < end && tape[after] >= 'a' && tape[after] <= 'z'; after++) {
-                    sort = LETTERS;
+                while (after < end && tape[after] >= 'a' && tape[after] <= 'z') {
+                    after++;
                 }
                 int length = after - at;
                 sort = length >= 1 && length <= WORD_ROOM ? LETTERS : NO_TOKEN;

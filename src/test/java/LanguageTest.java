@@ -20,7 +20,7 @@ public final class LanguageTest {
         + "trouble where word";
     private static final Set<String> LIBRARY = Set.of("java.util.Arrays", "java.util.NoSuchElementException");
     private static final String[] FORBIDDEN = {"->", "::", "\\bsynchronized\\b", "\\bassert\\b", "\\bfinally\\b", "\\btry\\b",
-        "\\bcatch\\b", "\\bwhile\\b", "\\bSystem\\b", "\\bThread\\b", "\\bhashCode\\b", "\\bequals\\b", "\\btoString\\b",
+        "\\bcatch\\b", "\\bwhile \\(true\\)", "\\bSystem\\b", "\\bThread\\b", "\\bhashCode\\b", "\\bequals\\b", "\\btoString\\b",
         "Exact\\(", "\\bdouble\\b", "\\bfloat\\b", "\\bprotected\\b", "\\bstatic\\s*\\{", "\\bvar\\b", "@SuppressWarnings"};
 
     private static int wrong;
@@ -79,7 +79,7 @@ public final class LanguageTest {
         need(made.isEmpty(), "objects of other classes: " + made);
     }
 
-    /** Each loop is a for with a condition. */
+    /** Each loop has a condition. */
     private static void loops(String code) {
         Matcher m = Pattern.compile("\\bfor \\(([^;]*);([^;]*);").matcher(code);
         while (m.find()) need(!m.group(2).isBlank(), "a loop without an end: " + m.group());

@@ -82,8 +82,38 @@ public final class OracleTest {
             lines.add("send " + (char) ('p' + draw(rows)) + " to " + (char) ('a' + to) + " if " + cases(rows, true)
                 + " at " + (char) ('a' + from));
         }
-        lines.add("promise " + places(rows, machines, " and ", 2) + " gives " + places(rows, machines, " or ", 3));
+        String promise = oneIn(4) ? "" : promiseKept(lines, rows, machines);
+        if (promise.isEmpty()) {
+            promise = "promise " + places(rows, machines, " and ", 2) + " gives " + places(rows, machines, " or ", 3);
+        }
+        lines.add(promise);
         return lines;
+    }
+
+    /** A promise that the run without falls keeps, so that trials have something to spoil; "" if no row is there. */
+    private String promiseKept(List<String> lines, int rows, int machines) {
+        Oracle look = new Oracle();
+        String text = String.join(";", lines) + ";promise p at a gives p at a";
+        for (int i = 0; i < text.length(); i += 20) {
+            int[] n = new int[5];
+            for (int k = 0; k < 20; k++) n[k / 4] = n[k / 4] << 8 | (i + k < text.length() ? text.charAt(i + k) : ' ');
+            look.feed(n[0], n[1], n[2], n[3], n[4]);
+        }
+        if (look.book(Math.min(text.length(), look.count(13))) < 0) return "";
+        List<String> there = new ArrayList<>();
+        for (int row = 0; row < rows; row++) {
+            for (int machine = 0; machine < machines; machine++) {
+                if (look.there(row, machine, 4) == 1) there.add((char) ('p' + row) + " at " + (char) ('a' + machine));
+            }
+        }
+        if (there.isEmpty()) return "";
+        String ahead = there.get(draw(there.size()));
+        if (oneIn(3)) ahead += " and " + there.get(draw(there.size()));
+        String behind = there.get(draw(there.size()));
+        for (int i = draw(3); i > 0; i--) {
+            behind += " or " + (oneIn(3) ? there.get(draw(there.size())) : places(rows, machines, "", 1));
+        }
+        return "promise " + ahead + " gives " + behind;
     }
 
     private String spoiltText(String text) {
@@ -189,10 +219,11 @@ public final class OracleTest {
                 check("stands " + row + " " + machine + " " + tick, house.stands(row, machine, tick), oracle.stands(row, machine, tick));
                 check("trouble", house.trouble(), oracle.trouble());
             }
-            int row = draw(rows + 1);
-            int many = oracle.reasons(row, machine, tick);
-            check("reasons " + row + " " + machine + " " + tick, house.reasons(row, machine, tick), many);
-            for (int i = -1; i <= many; i++) checkReason(row, machine, tick, i);
+            for (int row = 0; row <= rows; row++) {
+                int many = oracle.reasons(row, machine, tick);
+                for (int i = -1; i <= many; i++) checkReason(row, machine, tick, i);
+                check("reasons " + row + " " + machine + " " + tick, house.reasons(row, machine, tick), many);
+            }
         }
         for (int i = -1; i < 9; i++) checkLed(i);
     }
@@ -214,6 +245,7 @@ public final class OracleTest {
             case 6, 7 -> {
                 int kind = oneIn(10) ? draw(7) - 2 : draw(4);
                 int n = oneIn(10) ? draw(7) - 2 : draw(3);
+                if (oneIn(3)) check("purse " + (kind ^ 1) + " 0", house.purse(kind ^ 1, 0), oracle.purse(kind ^ 1, 0));
                 check("purse " + kind + " " + n, house.purse(kind, n), oracle.purse(kind, n));
             }
             case 8, 9 -> checkWholeRun();
@@ -254,13 +286,25 @@ public final class OracleTest {
         return house.count(10) < 700 || oracle.count(9) > 60;
     }
 
+    private void drawMends() {
+        int many = 1 + draw(4);
+        for (int i = 0; i < many; i++) {
+            int form = draw(3);
+            int which = draw(4);
+            check("mend " + form + " " + which, house.mend(form, which), oracle.mend(form, which));
+        }
+        int bits = (1 << oracle.count(7)) - 1 & draw(64);
+        if (oneIn(2)) check("make " + bits, house.make(bits), oracle.make(bits));
+    }
+
     private void drawRun() {
         if (oneIn(10)) {
             for (int i = 0; i < 20; i++) drawCall();
         }
-        for (int books = 1 + draw(2); books > 0 && !wrong; books--) {
+        for (int books = 1 + draw(4); books > 0 && !wrong; books--) {
             tellBook();
-            for (int i = 15 + draw(15); i > 0 && !wrong; i--) drawCall();
+            if (oneIn(2)) drawMends();
+            for (int i = 8 + draw(12); i > 0 && !wrong; i--) drawCall();
         }
     }
 }

@@ -247,6 +247,36 @@ public final class PromiseTest {
         x.fall(0, 0, 0);
         Feeder.tell(x, LOGS);
         due("word(0, 1): not sent again", x.word(0, 1), 0);
+        booksInTurn();
+    }
+
+    /** Nothing of a BOOK's LINES comes up again in a later one. */
+    private static void booksInTurn() {
+        FallTrials x = new FallTrials();
+        String denied = "machine a; machine b; row p kept; row q kept; row r; fact p at a; fact q at a maybe;"
+            + "rule r next if p and not q at a; send p to b if not q at a; promise p at a gives r at a";
+        String plain = "machine a; machine b; row p kept; row q kept; row r; fact p at b; fact q at b;"
+            + "rule r next if q; send q to a if q at b; promise p at b gives r at a";
+        for (int i = 0; i < 5; i++) {
+            due("book", Feeder.tell(x, denied), 2);
+            due("count(11)", x.count(11), 1);
+            due("run()", x.run(), 2);
+            due("word(0, 0)", x.word(0, 0), 0);
+            x.start(0);
+            due("run()", x.run(), 0);
+            reasonDue(x, 2, 0, 1, 3000);
+            chainDue(x, 4002, 3000, 2000, 1000, 0);
+            x.mend(2, 0);
+            x.make(1);
+            due("book", Feeder.tell(x, plain), 2);
+            due("count(2)", x.count(2), 2);
+            due("count(11)", x.count(11), 0);
+            due("run()", x.run(), 0);
+            reasonDue(x, 2, 1, 1, 3000);
+            reasonDue(x, 2, 0, 2, 3000);
+            chainDue(x, 4002, 3001, 2101, 1101, 101);
+            due("b reads no second fault", Feeder.tell(x, plain + ";"), -1);
+        }
     }
 
     private static int bookWithBlanks(FallTrials x) {
@@ -337,6 +367,17 @@ public final class PromiseTest {
         due("count(0)", x.count(0), 4);
         due("count(1)", x.count(1), 10);
         due("count(11)", x.count(11), 1);
+        // NAMES that begin with a word that is none, or with one another.
+        x = with("machine rows; machine ata; row ifs kept; row nota; row ands; row orx; row b; row bb; row bbbbbbbb;"
+            + "fact ifs at rows; fact b at ata; rule nota next if ifs and not ands at rows; rule bb now if b;"
+            + "send orx to ata if nota and not ands at rows; promise ifs at rows gives orx at ata");
+        due("count(1)", x.count(1), 7);
+        due("orx at ata", x.run(), 0);
+        due("bb at ata", x.there(5, 1, 0), 1);
+        due("bbbbbbbb at ata", x.there(6, 1, 0), 0);
+        faultDue("machine a; rowx b;", 1, 11);
+        faultDue("machine a; row x; fact x att a", 1, 25);
+        faultDue("machine a; row x keptx;", 1, 17);
         x = with("machine a;machine b;row x;" + "fact x at a;".repeat(10) + "rule x now if x;".repeat(10)
             + "send x to a if x at b;".repeat(6) + "promise x at a gives x at a");
         due("count(2)", x.count(2), 10);
@@ -557,6 +598,16 @@ public final class PromiseTest {
         x.fall(2, 2, 2);
         reasonDue(x, 2, 2, 3);
         reasonDue(x, 2, 2, 4, 2001);
+        // Behind a TICK in which the MACHINE was DOWN no RULE next is a reason.
+        x = with("machine a; row p kept; row q kept; fact p at a; rule q next if not q; rule q next if p;"
+            + "promise p at a gives p at a");
+        x.fall(2, 0, 1);
+        due("reason() asked for first", reasonOr(x, 0, 0, 3, 0), 2000);
+        reasonDue(x, 1, 0, 3);
+        reasonDue(x, 1, 0, 4, 3000, 3001);
+        x.clear();
+        due("reason() asked for first", reasonOr(x, 1, 0, 1, 1), 3001);
+        reasonDue(x, 1, 0, 2, 2001, 3001);
         // All of them at once: late and early words, kept, next, now.
         x = with("machine a; machine b; row x kept; row y kept; fact x at a; fact y at b;"
             + "send y to a if y at b; send y to a if y at b;"
@@ -695,6 +746,12 @@ public final class PromiseTest {
         x.fall(0, 0, 0);
         granted(x, "q round about", x.stands(1, 1, 1), 0);
         granted(x, "r round about", x.stands(2, 1, 1), 0);
+        // NOW goes on again and again, whatever the order of the RULES.
+        x = with("machine a; row p; row q; row r; row s; row t; fact p at a; rule t now if s; rule s now if r;"
+            + "rule r now if q; rule q now if p; promise p at a gives t at a");
+        granted(x, "there(4, 0, 0)", x.there(4, 0, 0), 1);
+        granted(x, "stands(4, 0, 0)", x.stands(4, 0, 0), 1);
+        granted(x, "stands(3, 0, 0)", x.stands(3, 0, 0), 1);
         // CASES behind not have no part in it; the MACHINE of the TICK ahead has.
         x = with("machine a; row p; row q kept; fact q at a; rule p next if not p; promise q at a gives p at a");
         x.last(3);
@@ -784,6 +841,46 @@ public final class PromiseTest {
         due("found(0)", x.found(0), 110);
         due("found(1)", x.found(1), -1);
         due("tried(): 100 idle, 110 broken", x.tried(), 2);
+        trialWithAnotherWay();
+        trialWithLateWords();
+    }
+
+    /** c asks b if a says nothing till tick 2: a FORMULA becomes known among the SETS of one FALL. */
+    private static void trialWithAnotherWay() {
+        FallTrials x = with("machine c; machine a; machine b; row put; row old; row older kept; row got kept; row log kept;"
+            + "row ok kept; fact put at c; fact ok at c; send log to a if put at c; send got to c if log at a;"
+            + "send log to b if older and not got at c; rule old next if put; rule older next if old;"
+            + "promise ok at c gives log at a or log at b");
+        // 0 good by b; 100 idle; a down (110 ..) leaves the way of b. Then {0, 100}, {0, 101}, {0, 102}: all idle;
+        // 103 leaves the first word to b; {0, 120} leaves nothing.
+        due("trial(100)", x.trial(100), 1);
+        due("tried()", x.tried(), 6);
+        due("known()", x.known(), 2);
+        due("found(0)", x.found(0), 0);
+        due("found(1)", x.found(1), 120);
+        due("trial(5)", x.trial(5), 2);
+        due("known()", x.known(), 2);
+    }
+
+    /** FORMULAS of RUNS with a word that comes late, and with a MACHINE that is away in between. */
+    private static void trialWithLateWords() {
+        FallTrials x = with("machine c; machine a; row put; row log kept; row go; row seen kept; row ok kept;"
+            + "fact put at c; fact go at a; rule ok now if put at c; send log to a if put at c; rule seen next if go at a;"
+            + "promise seen at a and ok at c gives log at a");
+        x.purse(0, 0);
+        x.purse(1, 0);
+        x.purse(2, 1);
+        x.purse(3, 1);
+        // Run: 200 idle, 210 idle, 211 idle, 212 good (kept from 1), 213 idle, 300 good (late, in 3); {200, 300 ..
+        // 303} idle, {201, 300} good, {202, 300} good, {203, 300} idle, {210, 300} idle, {211, 300} idle,
+        // {212, 300} broken. {210, 301} and the like leave the late word of 300's FORMULA.
+        due("trial(100)", x.trial(100), 1);
+        due("tried()", x.tried(), 16);
+        due("known()", x.known(), 5);
+        due("found(0)", x.found(0), 212);
+        due("found(1)", x.found(1), 300);
+        due("trial(16)", x.trial(16), 1);
+        due("trial(15)", x.trial(15), 2);
     }
 
     private static void exactRuns() {
@@ -824,6 +921,20 @@ public final class PromiseTest {
         // a down at the end and b not: one of the 6 falls of a, alone, with one of the 36, with another
         // of the 6, and with one of the 36 besides.
         granted(x, "down", x.exact(), 6 + 15 + 6 * 36 + 15 * 36);
+        // 72 falls, of which the last ones matter: the word of send 5 in tick 5, lost or late.
+        x = with("machine a;machine b;row p;row q;row r;row s;row t;row u;row k kept;row z;fact p at a;fact k at a;"
+            + "rule q next if p;rule r next if q;rule s next if r;rule t next if s;rule u next if t;"
+            + "send p to b if p at a;".repeat(5) + "send z to b if u at a;promise k at a gives z at b");
+        x.last(6);
+        x.purse(1, 0);
+        x.purse(3, 1);
+        due("count(9)", x.count(9), 72);
+        granted(x, "exact()", x.exact(), 2 + 36 + 36 - 1);
+        due("exactly(0)", x.exactly(0), 55);
+        due("exactly(1)", x.exactly(1), -1);
+        x.purse(0, 0);
+        granted(x, "exact()", x.exact(), 1);
+        due("exactly(0)", x.exactly(0), 355);
     }
 
     private static void cutDown() {
@@ -840,6 +951,17 @@ public final class PromiseTest {
         due("told(1)", x.told(1), 10);
         due("told(2)", x.told(2), -1);
         granted(x, "cut() again", x.cut(), 2);
+        // One between two that are needed.
+        x.fall(0, 0, 1);
+        granted(x, "cut() of 0, 1, 10", x.cut(), 2);
+        due("told(1)", x.told(1), 10);
+        x.fall(0, 0, 1);
+        x.fall(0, 0, 2);
+        x.fall(0, 1, 1);
+        x.fall(3, 1, 0);
+        granted(x, "cut() of six", x.cut(), 2);
+        due("told(0)", x.told(0), 0);
+        due("told(1)", x.told(1), 10);
         x.fall(1, 0, 3);
         refused(x, "cut() of an idle run", x.cut(), 5);
         due("count(6)", x.count(6), 3);
@@ -1126,6 +1248,42 @@ public final class PromiseTest {
         due("make(1)", x.make(1), 1);
         due("the case behind not is left out", x.run(), 0);
         due("word(0, 3)", x.word(0, 3), 1);
+        due("fit(0) goes by what is made", x.fit(0), 1);
+        // Two of a FORM at once, and one behind the other.
+        x = with(LOGS);
+        x.mend(1, 1);
+        x.mend(1, 0);
+        x.make(3);
+        due("word(0, 1)", x.word(0, 1), 1);
+        due("word(1, 1)", x.word(1, 1), 1);
+        due("fit(0) goes by what is made", x.fit(0), 1);
+        x = with("machine a; machine b; row p; row q; row r; fact p at a; fact q at a; send p to b if p and not q at a;"
+            + "send q to b if p and not q at a; promise p at a gives r at b");
+        x.mend(2, 1);
+        x.make(1);
+        x.mend(2, 0);
+        x.make(1);
+        due("word(0, 0)", x.word(0, 0), 1);
+        due("word(1, 0)", x.word(1, 0), 1);
+        // A RUN knows nothing of the one ahead of it: q holds in all TICKS but 0.
+        x = with("machine a; machine b; row p kept; row q; row z; fact p at a; rule q next if p at a;"
+            + "send z to b if q at a; promise p at a gives z at b");
+        x.mend(1, 0);
+        x.make(1);
+        for (int i = 0; i < 3; i++) due("word(0, 0)", x.word(0, 0), 0);
+        due("word(0, 1)", x.word(0, 1), 1);
+        // Sent again in 1, or sent by its CASES then, if k is at a in 0: each by its own TICK.
+        x = with("machine a; machine b; row p; row z; row k; fact p at a; fact k at a maybe; rule p next if k at a;"
+            + "send z to b if p at a; promise z at b gives z at b");
+        x.mend(1, 0);
+        x.make(1);
+        x.last(2);
+        for (int i = 0; i < 3; i++) {
+            due("start(0)", x.start(0), true);
+            chainDue(x, 2101, 0);
+            due("start(1)", x.start(1), true);
+            chainDue(x, 2101, 1000, 2);
+        }
     }
 
     private static void counts() {
