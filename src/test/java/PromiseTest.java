@@ -1041,6 +1041,15 @@ public final class PromiseTest {
         x.purse(0, 3);
         granted(x, "2 is thinner than 1", x.thin(), 2);
         due("thinness()", x.thinness(), 1);
+        // Each START has its own FACTS: y holds z up at b, but not in START 0, whatever THE START is now.
+        x = with("machine a; machine b; row x kept; row y kept; row z; fact x at a; fact y at b maybe;"
+            + "send z to b if x at a; rule z now if y at b; promise x at a gives z at b");
+        x.last(1);
+        x.purse(1, 0);
+        for (int bits = 0; bits < 2; bits++) {
+            x.start(bits);
+            granted(x, "thin()", x.thin(), 0);
+        }
         x = with("machine a;machine b;row x kept;fact x at b;" + "send x to a if x at b;".repeat(6)
             + "promise x at b gives x at a");
         x.last(6);
@@ -1284,6 +1293,16 @@ public final class PromiseTest {
             due("start(1)", x.start(1), true);
             chainDue(x, 2101, 1000, 2);
         }
+        // p in 0, 2 and 4: sent again in 1 and in 3.
+        x = with("machine a; machine b; row p; row z kept; fact p at a; rule p next if not p at a;"
+            + "send z to b if p at a; promise p at a gives z at b");
+        x.mend(1, 0);
+        x.make(1);
+        chainDue(x, 4101, 2000);
+        x.fall(0, 0, 0);
+        x.fall(0, 0, 2);
+        x.fall(0, 0, 3);
+        chainDue(x, 4101, 3101, 2101, 0);
     }
 
     private static void counts() {
