@@ -1042,7 +1042,7 @@ public final class PromiseTest {
         granted(x, "2 is thinner than 1", x.thin(), 2);
         due("thinness()", x.thinness(), 1);
         // Each START has its own FACTS: y holds z up at b, but not in START 0, whatever THE START is now.
-        x = with("machine a; machine b; row x kept; row y kept; row z; fact x at a; fact y at b maybe;"
+        x = with("machine a; machine b; row x kept; row y kept; row z; fact x at a; fact x at b; fact y at b maybe;"
             + "send z to b if x at a; rule z now if y at b; promise x at a gives z at b");
         x.last(1);
         x.purse(1, 0);
