@@ -2,22 +2,6 @@ import java.util.NoSuchElementException;
 
 /** The promises one by one, worked out by hand from the document. */
 public final class PromiseTest {
-    /** Machines c a b, rows put ack log; c asks two others to log, and says ack at once. */
-    private static final String LOGS = "machine c; machine a; machine b; row put; row ack kept; row log kept; "
-        + "fact put at c; send log to a if put at c; send log to b if put at c; rule ack now if put at c; "
-        + "promise ack at c gives log at a or log at b";
-    /** Machines c s, rows put got log; c asks till it hears. */
-    private static final String RETRY = "machine c; machine s; row put kept; row got kept; row log kept; "
-        + "fact put at c; send log to s if put and not got at c; send got to c if log at s; "
-        + "promise put at c gives log at s";
-    /** Two facts maybe, each with a send of its own from a to b. */
-    private static final String STARTS = "machine a; machine b; row x kept; row y kept; row z kept; "
-        + "fact x at a; fact y at a maybe; fact x at b maybe; send z to b if x at a; send z to b if y at a; "
-        + "promise x at a gives z at b";
-    /** The promise is never met. */
-    private static final String LOST_CAUSE = "machine a; row x kept; row y; fact x at a; promise x at a gives y at a";
-    private static final String IDLE_BOOK = "machine a; row x; promise x at a gives x at a";
-
     private static int checked;
     private static int wrong;
     private static int promise;
@@ -198,11 +182,11 @@ public final class PromiseTest {
         FallTrials x = new FallTrials();
         refused(x, "book(-1)", x.book(-1), 2);
         refused(x, "book(1)", x.book(1), 2);
-        Feeder.feed(x, LOGS);
+        Feeder.feed(x, Books.LOGS);
         int fed = x.count(13);
         refused(x, "book(fed + 1)", x.book(fed + 1), 2);
         due("count(13): the tape stays", x.count(13), fed);
-        granted(x, "book", x.book(LOGS.length()), 3);
+        granted(x, "book", x.book(Books.LOGS.length()), 3);
         due("count(13)", x.count(13), 0);
         granted(x, "book with blanks behind", bookWithBlanks(x), 3);
         for (int i = 0; i < 7; i++) due("count " + i, x.count(i), new int[] {3, 3, 1, 1, 2, 4, 0}[i]);
@@ -224,7 +208,7 @@ public final class PromiseTest {
         due("count(7) stays", x.count(7), 1);
         due("count(8) stays", x.count(8), 1);
         due("tried() stays", x.tried() >= 0, true);
-        Feeder.tell(x, STARTS);
+        Feeder.tell(x, Books.STARTS);
         due("count(5)", x.count(5), 4);
         due("count(6)", x.count(6), 0);
         due("count(7)", x.count(7), 0);
@@ -239,13 +223,13 @@ public final class PromiseTest {
         x.start(0);
         x.thin();
         due("thinness()", x.thinness(), 1);
-        Feeder.tell(x, RETRY);
+        Feeder.tell(x, Books.RETRY);
         due("thinness()", x.thinness(), -1);
         // What was made in the old BOOK isn't made in the new one.
         x.mend(1, 0);
         x.make(1);
         x.fall(0, 0, 0);
-        Feeder.tell(x, LOGS);
+        Feeder.tell(x, Books.LOGS);
         due("word(0, 1): not sent again", x.word(0, 1), 0);
         booksInTurn();
     }
@@ -280,7 +264,7 @@ public final class PromiseTest {
     }
 
     private static int bookWithBlanks(FallTrials x) {
-        Feeder.feed(x, "     " + LOGS + "     ");
+        Feeder.feed(x, "     " + Books.LOGS + "     ");
         return x.book(x.count(13));
     }
 
@@ -410,14 +394,14 @@ public final class PromiseTest {
         x.book(0);
         due("fault()", x.fault(), 1);
         due("where()", x.where(), 0);
-        Feeder.tell(x, IDLE_BOOK);
+        Feeder.tell(x, Books.IDLE_BOOK);
         due("fault()", x.fault(), 0);
         due("where()", x.where(), -1);
     }
 
     private static void setLast() {
         promise = 6;
-        FallTrials x = with(LOGS);
+        FallTrials x = with(Books.LOGS);
         x.fall(0, 0, 0);
         x.keep();
         refused(x, "last(0)", x.last(0), 2);
@@ -445,7 +429,7 @@ public final class PromiseTest {
 
     private static void setPurse() {
         promise = 7;
-        FallTrials x = with(LOGS);
+        FallTrials x = with(Books.LOGS);
         refused(x, "purse(-1, 0)", x.purse(-1, 0), 1);
         refused(x, "purse(4, 9)", x.purse(4, 9), 1);
         refused(x, "purse(0, -1)", x.purse(0, -1), 2);
@@ -472,7 +456,7 @@ public final class PromiseTest {
 
     private static void tellFalls() {
         promise = 8;
-        FallTrials x = with(LOGS);
+        FallTrials x = with(Books.LOGS);
         refused(x, "fall(-1, 0, 0)", x.fall(-1, 0, 0), 1);
         refused(x, "fall(4, 0, 9)", x.fall(4, 0, 9), 1);
         refused(x, "fall(0, 2, 0)", x.fall(0, 2, 0), 1);
@@ -494,7 +478,7 @@ public final class PromiseTest {
 
     private static void clearFalls() {
         promise = 9;
-        FallTrials x = with(LOGS);
+        FallTrials x = with(Books.LOGS);
         due("clear()", x.clear(), 0);
         x.fall(0, 0, 0);
         x.fall(0, 0, 1);
@@ -507,7 +491,7 @@ public final class PromiseTest {
 
     private static void runs() {
         promise = 10;
-        FallTrials x = with(LOGS);
+        FallTrials x = with(Books.LOGS);
         granted(x, "run()", x.run(), 0);
         x.fall(0, 0, 0);
         granted(x, "one word lost", x.run(), 0);
@@ -525,12 +509,12 @@ public final class PromiseTest {
         x.clear();
         x.fall(1, 0, 0);
         granted(x, "c down from the first on", x.run(), 1);
-        x = with(LOST_CAUSE);
+        x = with(Books.LOST_CAUSE);
         granted(x, "broken without falls", x.run(), 2);
-        x = with(IDLE_BOOK);
+        x = with(Books.IDLE_BOOK);
         granted(x, "idle", x.run(), 1);
         // Late: sent in 0, comes in 3; in time for LAST 3, not for LAST 2.
-        x = with(LOGS);
+        x = with(Books.LOGS);
         x.last(3);
         x.fall(3, 0, 0);
         x.fall(0, 1, 0);
@@ -543,7 +527,7 @@ public final class PromiseTest {
 
     private static void rowsThere() {
         promise = 11;
-        FallTrials x = with(LOGS);
+        FallTrials x = with(Books.LOGS);
         refused(x, "there(3, 0, 0)", x.there(3, 0, 0), 1);
         refused(x, "there(-1, 0, 9)", x.there(-1, 0, 9), 1);
         refused(x, "there(0, 3, 0)", x.there(0, 3, 0), 1);
@@ -581,7 +565,7 @@ public final class PromiseTest {
 
     private static void whyThere() {
         promise = 13;
-        FallTrials x = with(LOGS);
+        FallTrials x = with(Books.LOGS);
         refused(x, "reasons(3, 0, 0)", x.reasons(3, 0, 0), 1);
         refused(x, "reasons(0, 3, 0)", x.reasons(0, 3, 0), 1);
         refused(x, "reasons(0, 0, 5)", x.reasons(0, 0, 5), 2);
@@ -620,7 +604,7 @@ public final class PromiseTest {
 
     private static void words() {
         promise = 14;
-        FallTrials x = with(RETRY);
+        FallTrials x = with(Books.RETRY);
         refused(x, "word(2, 0)", x.word(2, 0), 1);
         refused(x, "word(-1, 9)", x.word(-1, 9), 1);
         refused(x, "word(0, 4)", x.word(0, 4), 2);
@@ -659,7 +643,7 @@ public final class PromiseTest {
 
     private static void firstDifference() {
         promise = 15;
-        FallTrials x = with(RETRY);
+        FallTrials x = with(Books.RETRY);
         refused(x, "differs(-1)", x.differs(-1), 1);
         refused(x, "differs(4)", x.differs(4), 1);
         for (int what = 0; what < 4; what++) granted(x, "none", x.differs(what), -2);
@@ -694,7 +678,7 @@ public final class PromiseTest {
 
     private static void spoilt() {
         promise = 16;
-        FallTrials x = with(LOGS);
+        FallTrials x = with(Books.LOGS);
         granted(x, "no falls", x.spoils(), 0);
         x.fall(0, 0, 0);
         granted(x, "one way lost", x.spoils(), 0);
@@ -714,15 +698,15 @@ public final class PromiseTest {
         x.fall(2, 2, 2);
         // b has log in 4 kept from 3, which is away: the FORMULA knows that chain alone.
         granted(x, "kept over a gap", x.spoils(), 1);
-        x = with(LOST_CAUSE);
+        x = with(Books.LOST_CAUSE);
         refused(x, "broken", x.spoils(), 5);
-        x = with(IDLE_BOOK);
+        x = with(Books.IDLE_BOOK);
         granted(x, "idle: no place holds", x.spoils(), 1);
     }
 
     private static void standing() {
         promise = 17;
-        FallTrials x = with(LOGS);
+        FallTrials x = with(Books.LOGS);
         refused(x, "stands(3, 0, 0)", x.stands(3, 0, 0), 1);
         refused(x, "stands(0, 3, 9)", x.stands(0, 3, 9), 1);
         refused(x, "stands(0, 0, 5)", x.stands(0, 0, 5), 2);
@@ -764,13 +748,13 @@ public final class PromiseTest {
         x.fall(2, 0, 1);
         granted(x, "p in 3, away in 1 and 2", x.stands(0, 0, 3), 0);
         // The RUN without FALLS being BROKEN is no refusal here.
-        x = with(LOST_CAUSE);
+        x = with(Books.LOST_CAUSE);
         granted(x, "broken", x.stands(0, 0, 4), 1);
     }
 
     private static void trials() {
         promise = 18;
-        FallTrials x = with(LOGS);
+        FallTrials x = with(Books.LOGS);
         refused(x, "trial(0)", x.trial(0), 2);
         refused(x, "trial(101)", x.trial(101), 2);
         granted(x, "trial(100)", x.trial(100), 1);
@@ -779,9 +763,9 @@ public final class PromiseTest {
         granted(x, "trial(1)", x.trial(1), 2);
         x.purse(1, 0);
         granted(x, "one word lost: holds", x.trial(1), 0);
-        x = with(IDLE_BOOK);
+        x = with(Books.IDLE_BOOK);
         refused(x, "idle", x.trial(5), 5);
-        x = with(LOST_CAUSE);
+        x = with(Books.LOST_CAUSE);
         refused(x, "broken", x.trial(5), 5);
         // 6 sends times 6 ticks, and 2 machines times 6 ticks: 48; with kind 3 84.
         x = with("machine a;machine b;row x kept;fact x at b;" + "send x to a if x at b;".repeat(6)
@@ -809,7 +793,7 @@ public final class PromiseTest {
 
     private static void trialAnswers() {
         promise = 19;
-        FallTrials x = with(LOGS);
+        FallTrials x = with(Books.LOGS);
         // Singles that spoil: c down in 0 (100) alone: idle. Then 0 with 110: a gets nothing, b's word
         // comes: the FORMULA of no falls is spoilt only where both ends are hit: {0, 100} has 100;
         // {0, 120}, {0, 121}, ... hit both. So 100 idle, {0, 100} idle, {0, 120} broken.
@@ -826,8 +810,8 @@ public final class PromiseTest {
         x.trial(2);
         due("tried()", x.tried(), 2);
         due("found(0)", x.found(0), -1);
-        // RETRY, words lost alone: {0, 1} spoils the first FORMULA; run, c asks again: its FORMULA is known.
-        x = with(RETRY);
+        // Books.RETRY, words lost alone: {0, 1} spoils the first FORMULA; run, c asks again: its FORMULA is known.
+        x = with(Books.RETRY);
         x.purse(1, 0);
         x.purse(0, 3);
         due("trial(100)", x.trial(100), 0);
@@ -836,7 +820,7 @@ public final class PromiseTest {
         due("found(0)", x.found(0), -1);
         due("trial(1)", x.trial(1), 0);
         // A single that breaks: s down from 1 on.
-        x = with(RETRY);
+        x = with(Books.RETRY);
         due("trial(100)", x.trial(100), 1);
         due("found(0)", x.found(0), 110);
         due("found(1)", x.found(1), -1);
@@ -885,7 +869,7 @@ public final class PromiseTest {
 
     private static void exactRuns() {
         promise = 22;
-        FallTrials x = with(LOGS);
+        FallTrials x = with(Books.LOGS);
         // Broken: word 0 of tick 0 lost and b down from 0, 1, 2 or 3 on: 4; the other way round: 4.
         granted(x, "exact()", x.exact(), 8);
         due("exactly(0)", x.exactly(0), 0);
@@ -899,7 +883,7 @@ public final class PromiseTest {
         granted(x, "both words of tick 0", x.exact(), 1);
         due("exactly(1)", x.exactly(1), 10);
         // Runs without FALLS that aren't GOOD are no hindrance.
-        x = with(LOST_CAUSE);
+        x = with(Books.LOST_CAUSE);
         // x is kept at a: broken but when a is down at the end, as any of the 4 falls DOWN makes it.
         granted(x, "broken already", x.exact(), 0);
         x.purse(1, 0);
@@ -939,7 +923,7 @@ public final class PromiseTest {
 
     private static void cutDown() {
         promise = 24;
-        FallTrials x = with(LOGS);
+        FallTrials x = with(Books.LOGS);
         refused(x, "cut() of a good run", x.cut(), 5);
         x.fall(0, 0, 0);
         x.fall(0, 1, 0);
@@ -965,7 +949,7 @@ public final class PromiseTest {
         x.fall(1, 0, 3);
         refused(x, "cut() of an idle run", x.cut(), 5);
         due("count(6)", x.count(6), 3);
-        x = with(LOST_CAUSE);
+        x = with(Books.LOST_CAUSE);
         x.fall(2, 0, 1);
         granted(x, "broken without any", x.cut(), 0);
         granted(x, "none told", x.cut(), 0);
@@ -973,7 +957,7 @@ public final class PromiseTest {
 
     private static void toldFalls() {
         promise = 25;
-        FallTrials x = with(LOGS);
+        FallTrials x = with(Books.LOGS);
         x.fall(3, 1, 2);
         x.fall(1, 2, 3);
         x.fall(0, 1, 0);
@@ -986,7 +970,7 @@ public final class PromiseTest {
 
     private static void starts() {
         promise = 26;
-        FallTrials x = with(STARTS);
+        FallTrials x = with(Books.STARTS);
         due("count(12)", x.count(12), 3);
         refused(x, "start(-1)", x.start(-1), 2);
         refused(x, "start(4)", x.start(4), 2);
@@ -1001,14 +985,14 @@ public final class PromiseTest {
         due("y at a", x.there(1, 0, 0), 0);
         due("x at b", x.there(0, 1, 0), 1);
         due("x at a is no fact maybe", x.there(0, 0, 0), 1);
-        FallTrials none = with(LOGS);
+        FallTrials none = with(Books.LOGS);
         due("start(0)", none.start(0), true);
         refused(none, "start(1)", none.start(1), 2);
     }
 
     private static void thinStarts() {
         promise = 27;
-        FallTrials x = with(STARTS);
+        FallTrials x = with(Books.STARTS);
         x.purse(1, 0);
         x.last(1);
         // Without y one lost word spoils it, with y it takes two.
@@ -1055,13 +1039,13 @@ public final class PromiseTest {
         x.last(6);
         x.purse(3, 1);
         refused(x, "more than 60 falls, a purse of 3", x.thin(), 5);
-        x = with(LOST_CAUSE);
+        x = with(Books.LOST_CAUSE);
         refused(x, "never good", x.thin(), 6);
     }
 
     private static void chains() {
         promise = 29;
-        FallTrials x = with(RETRY);
+        FallTrials x = with(Books.RETRY);
         chainDue(x, 4102, 3102, 2102, 1000, 0);
         x.fall(0, 0, 0);
         // log comes in 2 by the word of 1 first, where put was kept from 0.
@@ -1071,7 +1055,7 @@ public final class PromiseTest {
         x.fall(0, 0, 3);
         chainDue(x);
         // The second PLACE, if the first doesn't hold; a fact ends it, and so does a reason without rows.
-        x = with(LOGS);
+        x = with(Books.LOGS);
         x.fall(0, 0, 0);
         chainDue(x, 4202, 3202, 2202, 1202, 0);
         x = with("machine a; row p; row q; fact p at a; rule q next if not q; promise p at a gives p at a or q at a");
@@ -1091,7 +1075,7 @@ public final class PromiseTest {
 
     private static void tellMends() {
         promise = 30;
-        FallTrials x = with(LOGS);
+        FallTrials x = with(Books.LOGS);
         refused(x, "mend(-1, 0)", x.mend(-1, 0), 1);
         refused(x, "mend(3, 0)", x.mend(3, 0), 1);
         refused(x, "mend(0, 3)", x.mend(0, 3), 1);
@@ -1112,7 +1096,7 @@ public final class PromiseTest {
 
     private static void keepSets() {
         promise = 31;
-        FallTrials x = with(LOGS);
+        FallTrials x = with(Books.LOGS);
         refused(x, "keep() of none", x.keep(), 5);
         x.fall(0, 0, 0);
         for (int i = 1; i <= 8; i++) granted(x, "keep()", x.keep(), i);
@@ -1121,7 +1105,7 @@ public final class PromiseTest {
         x.clear();
         refused(x, "none told comes before no room", x.keep(), 5);
         // They are kept as they were told.
-        x = with(LOGS);
+        x = with(Books.LOGS);
         x.fall(0, 0, 0);
         x.fall(0, 1, 0);
         x.keep();
@@ -1131,7 +1115,7 @@ public final class PromiseTest {
 
     private static void fitMends() {
         promise = 32;
-        FallTrials x = with(LOGS);
+        FallTrials x = with(Books.LOGS);
         granted(x, "fit(0) without kept sets", x.fit(0), 1);
         refused(x, "fit(1)", x.fit(1), 2);
         refused(x, "fit(-1)", x.fit(-1), 2);
@@ -1165,13 +1149,13 @@ public final class PromiseTest {
         due("fit(2)", x.fit(2), 1);
         due("fit(3)", x.fit(3), 1);
         // Idle with a KEPT SET is no break; idle without FALLS is unfit.
-        x = with(IDLE_BOOK);
+        x = with(Books.IDLE_BOOK);
         due("fit(0)", x.fit(0), 0);
     }
 
     private static void leastMends() {
         promise = 33;
-        FallTrials x = with(LOGS);
+        FallTrials x = with(Books.LOGS);
         granted(x, "least() without any", x.least(), 0);
         x.fall(0, 0, 0);
         x.fall(1, 2, 3);
@@ -1207,7 +1191,7 @@ public final class PromiseTest {
 
     private static void makeMends() {
         promise = 34;
-        FallTrials x = with(LOGS);
+        FallTrials x = with(Books.LOGS);
         refused(x, "make(1)", x.make(1), 2);
         refused(x, "make(-1)", x.make(-1), 2);
         x.mend(1, 0);
@@ -1259,7 +1243,7 @@ public final class PromiseTest {
         due("word(0, 3)", x.word(0, 3), 1);
         due("fit(0) goes by what is made", x.fit(0), 1);
         // Two of a FORM at once, and one behind the other.
-        x = with(LOGS);
+        x = with(Books.LOGS);
         x.mend(1, 1);
         x.mend(1, 0);
         x.make(3);
@@ -1307,7 +1291,7 @@ public final class PromiseTest {
 
     private static void counts() {
         promise = 35;
-        FallTrials x = with(STARTS);
+        FallTrials x = with(Books.STARTS);
         x.fall(0, 0, 0);
         x.keep();
         x.keep();
@@ -1325,7 +1309,7 @@ public final class PromiseTest {
 
     private static void troubles() {
         promise = 36;
-        FallTrials x = with(LOGS);
+        FallTrials x = with(Books.LOGS);
         x.last(9);
         due("trouble()", x.trouble(), 2);
         x.feed(0, 0, 0, 0, 0);
