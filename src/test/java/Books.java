@@ -15,10 +15,12 @@ final class Books {
     /** The promise is never met. */
     static final String LOST_CAUSE = "machine a; row x kept; row y; fact x at a; promise x at a gives y at a";
     static final String IDLE_BOOK = "machine a; row x; promise x at a gives x at a";
-    /** x is kept at a, and a says z to b in every tick. */
-    static final String STEADY = "machine a; machine b; row x kept; row z; fact x at a; send z to b if x at a; "
-        + "promise x at a gives z at b";
-    /** Six sends and four machines, x at all of them: 60 falls of two kinds if LAST is 6. */
+    /** x is kept at a, which says y to b in every tick; b forgets it at once. */
+    static final String PAIR = "machine a;machine b;row x kept;row y;fact x at a;send y to b if x at a;"
+        + "promise x at a gives y at b";
+    /** The same with two sends. */
+    static final String TWICE = PAIR.replace("promise", "send y to b if x at a;promise");
+    /** Six sends and four machines: 60 words to lose and machines to go down if LAST is 6. */
     static final String WIDE = "machine a;machine b;machine c;machine d;row x kept;fact x at a;"
         + "send x to b if x at a;".repeat(2) + "send x to c if x at a;".repeat(2) + "send x to d if x at a;".repeat(2)
         + "promise x at a gives x at b or x at c or x at d";

@@ -10,16 +10,17 @@ import java.util.function.IntSupplier;
 
 /**
  * What the tests of single sentences share. Each sentence of the document that names an edge is a test of
- * its own: it is told by its place there (I to V of the terms, or a promise's number) and its words, runs on
- * objects of its own, and fails alone.
+ * its own: it is told by its place there (I to V of the terms, a promise's number, "what it is", "constants") and
+ * its words, runs on objects of its own, and fails alone.
  */
 abstract class Edges {
     static final int LEAST = Integer.MIN_VALUE;
     static final int MOST = Integer.MAX_VALUE;
     private static final Path DOCUMENT = Path.of("../shared/DOC.md");
-    private static final String[] MARKS = {"I. THE TEXT", "II. A RUN", "III. THE FORMULA", "IV. MENDS", "V. TROUBLE",
-        "The constants:"};
-    private static final List<String> TERMS = List.of("I", "II", "III", "IV", "V");
+    /** The places beside the promises, in their order in the document, and with what words each begins. */
+    private static final List<String> TERMS = List.of("what it is", "I", "II", "III", "IV", "V", "constants", "calls");
+    private static final String[] MARKS = {"## What it is", "I. THE TEXT", "II. A RUN", "III. THE FORMULA", "IV. MENDS",
+        "V. TROUBLE", "The constants:", "Ahead of the calls"};
 
     private final String document = documentText();
     private final Set<String> places = new TreeSet<>();
