@@ -10,6 +10,11 @@ public final class FormulaEdgeTest extends Edges {
     private static final String HELD = "machine a;machine b;row x kept;row z kept;fact x at a;send z to b if x at a;"
         + "promise x at a gives z at b";
 
+    /** t at b goes on by y and z, words of each tick, or without one that doesn't come: then no FORMULA wants that one. */
+    private static final String BOTH = "machine a;machine b;row x kept;row y;row z;row p;row q;row t;fact x at a;fact t at b;"
+        + "send y to b if x at a;send z to b if x at a;rule p next if t and y;rule p next if t and not y;"
+        + "rule q next if t and z;rule q next if t and not z;rule t now if p and q;promise x at a gives t at b";
+
     public static void main(String[] args) {
         FormulaEdgeTest test = new FormulaEdgeTest();
         test.standing();
@@ -745,6 +750,7 @@ public final class FormulaEdgeTest extends Edges {
         sentence("18", "or there are more than 60 of ALL FALLS and THE PURSE has 3", this::trialTooMuch);
         sentence("19", "RUNS that the latest trial() not refused did (behind the first); NONE without one.", this::triedAnswers);
         sentence("20", "FORMULAS that were KNOWN at its end; NONE without one.", this::knownAnswers);
+        sentence("20", "FORMULAS that were KNOWN at its end", this::mostFormulas);
         sentence("21", "NUMBER of the i-th FALL (by NUMBERS) of the SET that ended it BROKEN; NONE if there is none such.",
             this::foundAnswers);
     }
@@ -850,6 +856,32 @@ public final class FormulaEdgeTest extends Edges {
         purse(x, 1, 0, 0, 0);
         x.trial(1);
         due("the first alone", x.known(), 1);
+    }
+
+    /** With LAST 6 words of 5 TICKS of 2 SENDS matter: of 10 one, two or three lost are GOOD, and each spoils all before. */
+    private void mostFormulas() {
+        FallTrials x = with(BOTH);
+        x.last(6);
+        purse(x, 1, 0, 0, 0);
+        granted(x, "one", x.trial(100), 0);
+        due("tried()", x.tried(), 10);
+        due("known()", x.known(), 11);
+        purse(x, 2, 0, 0, 0);
+        granted(x, "two", x.trial(100), 0);
+        due("tried()", x.tried(), 55);
+        due("known()", x.known(), 56);
+        granted(x, "55 RUNS are enough", x.trial(55), 0);
+        granted(x, "54 are not", x.trial(54), 2);
+        purse(x, 3, 0, 0, 0);
+        granted(x, "three: 175 would be", x.trial(100), 2);
+        due("tried()", x.tried(), 100);
+        due("known()", x.known(), 101);
+        due("exact()", x.exact(), 0);
+        granted(x, "once more", x.trial(100), 2);
+        due("known()", x.known(), 101);
+        x.last(5);
+        granted(x, "of 8 words three: 92", x.trial(92), 0);
+        due("known()", x.known(), 93);
     }
 
     private void foundAnswers() {
