@@ -15,6 +15,13 @@ public final class FormulaEdgeTest extends Edges {
         + "send y to b if x at a;send z to b if x at a;rule p next if t and y;rule p next if t and not y;"
         + "rule q next if t and z;rule q next if t and not z;rule t now if p and q;promise x at a gives t at b";
 
+    /** The same with v in the way without: v comes by three words of TICK 0; u, a word of TICK 0, matters where y of 0 is lost. */
+    private static final String BESIDE = "machine a;machine b;row x kept;row y;row z;row p;row q;row t;row v kept;row w;row u;row m;"
+        + "fact x at a;fact w at a;fact t at b;fact y at b;fact z at b;send y to b if x at a;send z to b if x at a;"
+        + "send u to b if w at a;send v to b if w at a;send v to b if w at a;send v to b if w at a;rule p next if t and y;"
+        + "rule p next if m and u and not y;rule p next if m and not u and not y;rule q next if t and z;"
+        + "rule q next if m and not z;rule m now if t and v;rule t now if p and q;promise x at a gives t at b";
+
     public static void main(String[] args) {
         FormulaEdgeTest test = new FormulaEdgeTest();
         test.standing();
@@ -751,6 +758,7 @@ public final class FormulaEdgeTest extends Edges {
         sentence("19", "RUNS that the latest trial() not refused did (behind the first); NONE without one.", this::triedAnswers);
         sentence("20", "FORMULAS that were KNOWN at its end; NONE without one.", this::knownAnswers);
         sentence("20", "FORMULAS that were KNOWN at its end", this::mostFormulas);
+        sentence("III", "one that doesn't SPOIL all KNOWN FORMULAS is passed over", this::firstFormulaStays);
         sentence("21", "NUMBER of the i-th FALL (by NUMBERS) of the SET that ended it BROKEN; NONE if there is none such.",
             this::foundAnswers);
     }
@@ -882,6 +890,24 @@ public final class FormulaEdgeTest extends Edges {
         x.last(5);
         granted(x, "of 8 words three: 92", x.trial(92), 0);
         due("known()", x.known(), 93);
+    }
+
+    /**
+     * Of 8 words one, two or three lost: 92; with u's, that of 0 of y and at most one more: 8. All are GOOD, and want v.
+     * {30, 40, 50}, all of v's words, spoils each of these 100 FORMULAS, but not the first one: there is no run 101.
+     */
+    private void firstFormulaStays() {
+        FallTrials x = with(BESIDE);
+        x.last(5);
+        purse(x, 3, 0, 0, 0);
+        granted(x, "100 RUNS", x.trial(100), 0);
+        due("tried()", x.tried(), 100);
+        due("known()", x.known(), 101);
+        granted(x, "99 are too few", x.trial(99), 2);
+        for (int send = 3; send < 6; send++) x.fall(0, send, 0);
+        granted(x, "v's words and the first FORMULA", x.spoils(), 0);
+        granted(x, "once more", x.trial(100), 0);
+        due("known()", x.known(), 101);
     }
 
     private void foundAnswers() {
